@@ -671,12 +671,13 @@ public final class WingCensus {
             return 0;
         }
         long place = tenToThe(many - 1);
-        long best = Long.MAX_VALUE;
+        long best = NONE;
         for (int p = 0; p < land.people; p++) {
             if ((set >> p & 1) != 0) {
                 long steps = land.steps(from, now.at[p]);
                 long rest = shortestRound(now.at[p], set & ~(1 << p), many - 1);
-                best = Math.min(best, steps * STEP + (p + 1) * place + rest);
+                long whole = steps * STEP + (p + 1) * place + rest;
+                best = best == NONE ? whole : Math.min(best, whole);
             }
         }
         return best;

@@ -5,8 +5,10 @@ public final class NorthTest {
         feed();
         north();
         northAnew();
+        northsInTurn();
         northWithFault();
         faults();
+        faultsBehindLongerTexts();
         told();
         toldGroups();
         toldFarOut();
@@ -122,6 +124,39 @@ public final class NorthTest {
         Due.due("no north: cell(0, 0)", x.cell(0, 0), Due.UNKNOWN);
         Due.due("no north: night(1)", x.night(1), Due.NOT);
         Due.due("no north: seed", x.seed(0), 78);
+    }
+
+    /** Nothing of an earlier north, good or bad, is left in a later one. */
+    private static void northsInTurn() {
+        WingCensus x = Due.told("n7 7;p0;p1;p2;w3;r0 0;r1 1;r6 6;");
+        Due.feed(x, "n5 5;p0;w2;r4 4;r4 9;");
+        x.north();
+        Due.feed(x, "n3 3;p3;");
+        x.north();
+        Due.feed(x, "n3 3;p1;");
+        Due.due("north(), the last", x.north(), 1);
+        Due.due("its wind", x.told(6), 0);
+        Due.due("its rocks", x.told(3), 0);
+        Due.due("its kind", x.person(0, 0), 1);
+        Due.due("its fits(0)", x.fits(0), 26);
+        Due.due("its canLie(0, 0)", x.canLie(0, 0), 2);
+        x.lie(0, 4);
+        x.wind(1);
+        x.night(1);
+        Due.dueDents("its edges", x, "070/788/000");
+        x.wind(3);
+        x.night(1);
+        Due.dueDents("its other edges", x, "050/676/000");
+        x.north();
+        Due.due("none: told(1)", x.told(1), 0);
+        Due.due("none: fits(0)", x.fits(0), 0);
+        Due.feed(x, "n3 3;r2 2;");
+        x.north();
+        x.north();
+        x.north();
+        Due.due("none: told(1)", x.told(1), 0);
+        Due.due("none: told(3)", x.told(3), 0);
+        Due.due("none: pin(0)", x.pin(0), Due.OUTSIDE);
     }
 
     private static void northWithFault() {
@@ -248,6 +283,23 @@ public final class NorthTest {
         Due.due("fault() of a good one", x.fault(), Due.NONE);
     }
 
+    /** The letters of an earlier, longer text do not stand behind the end. */
+    private static void faultsBehindLongerTexts() {
+        String[] texts = {"n", "n2", "n2 2", "n2 2;p", "n2 2;p3", "n2 2;p3;r", "n2 2;p3;r1", "n2 2;p3;r1 1"};
+        for (String text : texts) {
+            WingCensus x = Due.told("n2 2;p3;r1 1;");
+            Due.feed(x, text);
+            Due.due("north() of [" + text + "] behind a longer one", x.north(), -11);
+            Due.due("its fault()", x.fault(), text.length());
+        }
+        WingCensus x = new WingCensus();
+        Due.feed(x, "n2 2;p33;");
+        x.north();
+        Due.feed(x, "n2 2;p3");
+        Due.due("north(), a figure behind the end", x.north(), -11);
+        Due.due("its fault()", x.fault(), 7);
+    }
+
     private static void told() {
         WingCensus x = Due.told("n5 4;p3;p2;p0;p3;w1;r4 3;");
         Due.due("told(-1)", x.told(-1), Due.OUTSIDE);
@@ -339,6 +391,11 @@ public final class NorthTest {
         x.rise(1);
         x.rise(2);
         Due.due("one again", x.told(13), Due.NONE);
+        WingCensus y = Due.told("n7 7;p3;p3;p3;");
+        y.lie(0, 0);
+        y.lie(1, 1);
+        y.lie(2, 6);
+        Due.due("0 is the nearest of 1", y.told(13), 2);
     }
 
     private static void toldBare() {

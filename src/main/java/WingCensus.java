@@ -322,7 +322,7 @@ public final class WingCensus {
         if (many < 1 || many > MOST_ON_ROUND || (set & ~whoLies()) != 0) {
             return NOT;
         }
-        long best = shortestRound(c, set, many);
+        long best = shortestRound(land, now.at, c, set, many);
         return (int) (what == 0 ? best / STEP : best % STEP);
     }
 
@@ -665,17 +665,20 @@ public final class WingCensus {
         return best;
     }
 
-    /** Steps times STEP, and the order: the least of such numbers has fewest steps, then the least order. */
-    private long shortestRound(int from, int set, int many) {
+    /**
+     * Steps times STEP, and the order: the least of such numbers has fewest steps, then the least order. The depth is
+     * how many are still to be seen.
+     */
+    private static long shortestRound(Land land, int[] at, int from, int set, int many) {
         if (many < 1 || many > MOST_ON_ROUND) {
             return 0;
         }
         long place = tenToThe(many - 1);
         long best = NONE;
-        for (int p = 0; p < land.people; p++) {
+        for (int p = 0; p < land.people && p < at.length; p++) {
             if ((set >> p & 1) != 0) {
-                long steps = land.steps(from, now.at[p]);
-                long rest = shortestRound(now.at[p], set & ~(1 << p), many - 1);
+                long steps = land.steps(from, at[p]);
+                long rest = shortestRound(land, at, at[p], set & ~(1 << p), many - 1);
                 long whole = steps * STEP + (p + 1) * place + rest;
                 best = best == NONE ? whole : Math.min(best, whole);
             }

@@ -8,11 +8,16 @@ public final class BothTest {
     private final WingCensus quick = new WingCensus();
     private final SlowCensus slow = new SlowCensus();
     private final StringBuilder calls = new StringBuilder();
+    private int made;
     private int wrong;
 
     private BothTest(long seed) { random = new Random(seed); }
 
+    /** Nothing is promised about an object after its 512th call. */
+    private boolean canAsk(int more) { return made + more <= 512; }
+
     private void same(String call, int got, int want) {
+        made++;
         calls.append(call).append(" = ").append(want).append('\n');
         if (got != want) {
             wrong++;
@@ -29,7 +34,7 @@ public final class BothTest {
     }
 
     private void feed(String text) {
-        for (char ch : text.toCharArray()) same("feed(" + (int) ch + ")", quick.feed(ch), slow.feed(ch));
+        for (char ch : text.toCharArray()) if (canAsk(1)) same("feed(" + (int) ch + ")", quick.feed(ch), slow.feed(ch));
     }
 
     private String blank() { return random.nextInt(6) == 0 ? " " : ""; }
@@ -83,14 +88,16 @@ public final class BothTest {
         int r = random.nextInt(10);
         String text = r == 0 ? "" : r == 1 ? "  " : r < 5 ? spoilt(goodText()) : r < 7 ? manyClauses() : goodText();
         feed(text);
+        if (!canAsk(2)) return;
         same("north() of [" + text + "]", quick.north(), slow.north());
         same("fault()", quick.fault(), slow.fault());
     }
 
     private void compareAll() {
-        for (int k = -1; k <= 18; k++) same("told(" + k + ")", quick.told(k), slow.told(k));
-        for (int c = -1; c <= 49; c++) for (int k = 0; k < 4; k++) same("cell(" + c + ", " + k + ")", quick.cell(c, k), slow.cell(c, k));
-        for (int p = -1; p <= 7; p++) for (int k = 0; k < 3; k++) same("person(" + p + ", " + k + ")", quick.person(p, k), slow.person(p, k));
+        for (int k = -1; k <= 18 && canAsk(1); k++) same("told(" + k + ")", quick.told(k), slow.told(k));
+        int k = random.nextInt(4);
+        for (int c = -1; c <= slow.told(0) * slow.told(1) && canAsk(1); c++) same("cell(" + c + ", " + k + ")", quick.cell(c, k), slow.cell(c, k));
+        for (int p = -1; p <= slow.told(2) && canAsk(1); p++) same("person(" + p + ", " + k + ")", quick.person(p, k), slow.person(p, k));
     }
 
     private void deed() {
@@ -141,18 +148,16 @@ public final class BothTest {
 
     private int play() {
         if (random.nextInt(6) != 0) tellNorth();
-        int calls = 60 + random.nextInt(60);
-        for (int i = 0; i < calls; i++) {
+        while (canAsk(2)) {
             if (random.nextInt(2) == 0) deed(); else question();
             if (random.nextInt(60) == 0) tellNorth();
-            if (random.nextInt(20) == 0) compareAll();
+            if (random.nextInt(60) == 0) compareAll();
         }
-        compareAll();
         return wrong;
     }
 
     public static void main(String[] args) {
-        int runs = args.length > 0 ? Integer.parseInt(args[0]) : 1500;
+        int runs = args.length > 0 ? Integer.parseInt(args[0]) : 2500;
         int bad = 0;
         for (int seed = 0; seed < runs && bad < 3; seed++) if (new BothTest(seed).play() != 0) bad++;
         System.out.println(bad == 0 ? "both answer alike" : "both do not answer alike");

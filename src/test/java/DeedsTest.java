@@ -360,7 +360,7 @@ public final class DeedsTest {
         x.seed(5);
         String[] before = new String[12];
         for (int k = 0; k < 12; k++) {
-            before[k] = Due.all(x);
+            before[k] = Due.deedsLeft(x);
             switch (k) {
                 case 0 -> x.lie(1, 4);
                 case 1 -> x.lie(0, 6);
@@ -381,7 +381,7 @@ public final class DeedsTest {
         for (int k = 11; k >= 0; k--) {
             if (k == 10) continue;
             x.undo(1);
-            Due.dueSame("undone to " + k, Due.all(x), before[k]);
+            Due.dueSame("undone to " + k, Due.deedsLeft(x), before[k]);
         }
         Due.due("the seed stays", x.seed(0), 9);
     }

@@ -20,6 +20,9 @@ public final class FaceTest {
     private static final String[] RULED_OUT = {"throw", "throws", "try", "catch", "synchronized", "assert", "->", "::", "java\\.io", "java\\.time",
         "Random", "currentTimeMillis", "nanoTime", "Thread", "Exact\\(", "hashCode", "package", "float", "double"};
 
+    private static final java.util.Set<String> LIBRARY = java.util.Set.of("Math.max", "Math.min", "Math.abs", "Math.floorDiv", "Math.floorMod",
+        "Integer.bitCount", "Long.bitCount", "Integer.compare", "Long.compare", "System.arraycopy", "Arrays.copyOf", "Arrays.copyOfRange", "Arrays.fill");
+
     public static void main(String[] args) throws Exception {
         face();
         constants();
@@ -79,7 +82,27 @@ public final class FaceTest {
             int fields = 0;
             for (Field f : c.getDeclaredFields()) if (!Modifier.isStatic(f.getModifiers())) fields++;
             Due.due("more than twenty fields: " + c, fields > 20 ? 1 : 0, 0);
+            membersInside(c);
         }
+    }
+
+    private static void membersInside(Class<?> c) {
+        TreeSet<String> publicNames = new TreeSet<>();
+        for (String call : FACE) publicNames.add(call.replaceAll("int (\\w+)\\(.*", "$1"));
+        for (Method m : c.getDeclaredMethods()) {
+            Due.due("the name of a public method: " + m, publicNames.contains(m.getName()) ? 1 : 0, 0);
+            Due.due("parameters of " + m, m.getParameterCount() > 7 ? 1 : 0, 0);
+        }
+        for (Field f : c.getDeclaredFields()) {
+            int m = f.getModifiers();
+            Due.due("static but not final: " + f, Modifier.isStatic(m) && !Modifier.isFinal(m) ? 1 : 0, 0);
+        }
+    }
+
+    /** The library's functions that the class calls are those that rule 4 lists. */
+    private static void library(String code) {
+        Matcher calls = Pattern.compile("\\b([A-Z][a-z]\\w*)\\.(\\w+)").matcher(code.replaceAll("import [^;]*;", ""));
+        while (calls.find()) Due.due("the library's " + calls.group(), LIBRARY.contains(calls.group()) ? 1 : 0, 1);
     }
 
     private static void source() throws Exception {
@@ -90,6 +113,7 @@ public final class FaceTest {
             Matcher m = Pattern.compile(edge + word + edge).matcher(code);
             Due.due("ruled out: " + word, m.find() ? 1 : 0, 0);
         }
+        library(code);
         Matcher imports = Pattern.compile("import ([^;]*);").matcher(code);
         while (imports.find()) {
             boolean fine = imports.group(1).matches("java\\.util\\.(Arrays|ArrayList|List|Iterator)");
